@@ -125,8 +125,8 @@ public final class PedestalTest {
                     WAY(5, 4) = 3
                     WAY(5, 5) = 4
                     WAY(5, 6) = 2
-                    WAY(0, 7) = 3
-                    WAY(0, 9999) = 2
+                    WAY(0, 7) = 4
+                    WAY(0, 9999) = 3
                     WAY(0, 8192) = 2
                     WAY(0, 8191) = 4
                     WAY(2, 9998) = 4
