@@ -385,7 +385,9 @@ public final class StatueChancery {
     }
 
     public char failureKind() throws NoSuchElementException {
-        existing(latestFailedCommand);
+        if (latestFailureKind == NO_FAULT) {
+            throw new NoSuchElementException();
+        }
         return latestFailureKind;
     }
 
@@ -869,7 +871,7 @@ public final class StatueChancery {
             return best;
         }
 
-        /** A set fits if its writs do one night after the other in the order of their last nights; else it is worth 0. */
+        /** A set that does not fit one night after the other, in the order of last nights, is worth 0. */
         private int valueOfSet(Writs writs, int firstNight, int set) {
             int nextNight = firstNight;
             int value = 0;
@@ -1011,7 +1013,7 @@ public final class StatueChancery {
             }
         }
 
-        /** Returns the fewest blocks of at most this weight for the rest, or NO_WAY if these are not below the limit. */
+        /** Returns the fewest blocks of at most this weight for the rest, or NO_WAY unless they are below the limit. */
         private static int search(int[] store, long[] reachable, int weight, int rest, int limit) {
             if (weight < 0 || weight > HEAVIEST_BLOCK || (reachable[weight] >> rest & 1) == 0) {
                 return NO_WAY;
