@@ -741,7 +741,9 @@ public final class StatueChancery {
             System.arraycopy(other.lastNights, 0, lastNights, 0, MOST_WRITS);
             System.arraycopy(other.bails, 0, bails, 0, MOST_WRITS);
             System.arraycopy(other.causes, 0, causes, 0, MOST_WRITS);
-            System.arraycopy(other.paid, 0, paid, 0, MOST_WRITS);
+            for (int position = 0; position < count; position++) {
+                paid[position] = other.paid[position];
+            }
         }
 
         boolean isFull() {
@@ -772,13 +774,14 @@ public final class StatueChancery {
 
         void close(int position) {
             int writ = ids[position];
-            int behind = count - position - 1;
-            System.arraycopy(ids, position + 1, ids, position, behind);
-            System.arraycopy(statues, position + 1, statues, position, behind);
-            System.arraycopy(lastNights, position + 1, lastNights, position, behind);
-            System.arraycopy(bails, position + 1, bails, position, behind);
-            System.arraycopy(causes, position + 1, causes, position, behind);
-            System.arraycopy(paid, position + 1, paid, position, behind);
+            for (int at = position; at + 1 < count; at++) {
+                ids[at] = ids[at + 1];
+                statues[at] = statues[at + 1];
+                lastNights[at] = lastNights[at + 1];
+                bails[at] = bails[at + 1];
+                causes[at] = causes[at + 1];
+                paid[at] = paid[at + 1];
+            }
             count--;
             dropCause(writ);
         }

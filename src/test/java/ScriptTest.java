@@ -187,13 +187,13 @@ public final class ScriptTest {
     }
 
     private static void failures(Runs runs) {
-        String[] failures = {"arrow 03", "i", "arrow 30", "i", "statue 3 5", "i", "statue 2 0", "a", "statue 2 100", "a",
+        String[] failures = {
+            "arrow 03", "i", "arrow 30", "i", "statue 3 5", "i", "statue 2 0", "a", "statue 2 100", "a",
             "statue 0 5", "s", "home 20", "i", "home 03", "i", "writ 2 1 1", "i", "writ 0 21 1", "a",
-            "writ 0 1 0", "a",
-            "writ 0 1 61", "a", "writ 0 1 1<2", "e", "writ 0 21 1<2", "a", "writ 2 1 1<0", "i", "block 0 1", "a",
-            "block 21 1", "a", "block 1 0", "a", "pay 2", "e", "pay 999", "e", "hear 2", "e", "night 0", "a",
-            "night 51", "a", "night 999", "a", "pay 0;pay 0", "s", "hear 0;hear 1", "s", "hear 0;hear 0", "e",
-            "writ 0 1 5;pay 2", "u", "hear 0;pay 0", "e",
+            "writ 0 1 0", "a", "writ 0 1 61", "a", "writ 0 1 1<2", "e", "writ 0 21 1<2", "a", "writ 2 1 1<0", "i",
+            "block 0 1", "a", "block 21 1", "a", "block 1 0", "a", "pay 2", "e", "pay 999", "e", "hear 2", "e",
+            "night 0", "a", "night 51", "a", "night 999", "a", "pay 0;pay 0", "s", "hear 0;hear 1", "s",
+            "hear 0;hear 0", "e", "writ 0 1 5;pay 2", "u", "hear 0;pay 0", "e",
             "pedestal;pedestal;pedestal;pedestal;pedestal;pedestal", "s",
             "block 10 9;block 10 9;block 10 9;block 10 9;night", "-"};
         for (int i = 0; i < failures.length; i += 2) {
