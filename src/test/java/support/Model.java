@@ -17,7 +17,7 @@ final class Model {
     private static final String NUMBER = "[0-9]{1,3}";
     private static final String COMMAND = ("(pedestal|arrow [0-9][0-9]|statue [0-9] N|home [0-9][0-9]"
             + "|writ [0-9] N N(<N)?|block N [0-9]|pay N|hear N|night( N)?)").replace("N", NUMBER);
-    private static final Pattern SCRIPT = Pattern.compile(COMMAND + "(;" + COMMAND + ")*");
+    static final Pattern SCRIPT = Pattern.compile(COMMAND + "(;" + COMMAND + ")*");
 
     private record Statue(int weight, int place, int home) {
         Statue to(int pedestal) {
@@ -404,7 +404,7 @@ final class Model {
     }
 
     /** The length of the longest beginning that could still go on to a script. */
-    private static int firstWrong(String script) {
+    static int firstWrong(String script) {
         for (int length = script.length(); length > 0; length--) {
             Matcher matcher = SCRIPT.matcher(script.substring(0, length));
             if (matcher.matches() || matcher.hitEnd()) {
