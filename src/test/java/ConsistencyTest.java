@@ -13,6 +13,8 @@ public final class ConsistencyTest {
         test.arrows();
         test.dockets();
         test.blocks();
+        test.leastAmount();
+        test.greatestAmount();
         test.accounts();
         test.places();
         if (test.wrong > 0) {
@@ -44,6 +46,24 @@ public final class ConsistencyTest {
         setElement(part(chancery, "marble"), "store", 20, -1);
         setElement(part(chancery, "marble"), "added", 20, -1);
         expectSpoilt("blocks", chancery);
+    }
+
+    /** The same with one block of the weight 1, so that the ways differ for the amount 1 alone. */
+    private void leastAmount() throws ReflectiveOperationException {
+        StatueChancery chancery = new StatueChancery();
+        chancery.addBlocks(1, 1);
+        setElement(part(chancery, "marble"), "store", 20, -1);
+        setElement(part(chancery, "marble"), "added", 20, -1);
+        expectSpoilt("blocks for the amount 1", chancery);
+    }
+
+    /** A table that mistakes two blocks of the weight 20 for as many as one likes differs for the amount 60 alone. */
+    private void greatestAmount() throws ReflectiveOperationException {
+        StatueChancery chancery = new StatueChancery();
+        chancery.addBlocks(20, 2);
+        int[][] fewest = (int[][]) value(value(chancery, "till"), "fewest");
+        fewest[20] = fewest[19];
+        expectSpoilt("blocks for the amount 60", chancery);
     }
 
     private void accounts() throws ReflectiveOperationException {

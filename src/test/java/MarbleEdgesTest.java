@@ -1,4 +1,4 @@
-/** Promises 8, 9 and 39 to 44: a test for each edge that the document names, titled with its promise. */
+/** Promises 8, 9, 39 to 44 and 51: a test for each edge that the document names, titled with its promise. */
 public final class MarbleEdgesTest {
     private static final String NINETY = "addBlocks(3, 9)\n".repeat(10);
     /** 38 blocks of the weight 1, and a bail of 60 that goes back as 60 more. */
@@ -24,6 +24,7 @@ public final class MarbleEdgesTest {
         test.addBlocksWrongly();
         test.addBlocksUpTo99();
         test.blocksThatComeBack();
+        test.thousandsOfBlocks();
         test.payBailWrongly();
         test.payBailOutOfReach();
         test.payBail();
@@ -94,6 +95,20 @@ public final class MarbleEdgesTest {
                 "addBlocks(1, 0) = throws.IllegalArgumentException");
         runs.run("P9: more than 99 blocks can be paid with", MORE_THAN_99, "issueWrit(0, 9, 60) = 1",
                 "payBail(1) = 60", "blocks(1) = 99");
+    }
+
+    private void thousandsOfBlocks() {
+        StringBuilder rows = new StringBuilder(Starts.STATUE);
+        for (int writ = 0; writ < 100; writ++) {
+            rows.append("addBlocks(20, 3) = 3\nissueWrit(0, 0, 60)\npayBail(").append(writ).append(") = 3\n")
+                    .append("passNights(1)\n");
+        }
+        runs.run("P39: six thousand blocks that came back", rows.toString(), "blocks(1) = 6000", "blocks(20) = 0");
+        runs.run("P42: six thousand blocks that came back", rows.toString(), "marbleTotal() = 6000");
+        runs.run("P43: six thousand blocks that came back", rows.toString(), "marbleByAccounts() = 6000");
+        runs.run("P40: six thousand blocks that came back", rows.toString(), "fewestBlocks(60) = 60");
+        runs.run("P41: six thousand blocks that came back", rows.toString(), "fewestBlocksBySearch(60) = 60");
+        runs.run("P51: six thousand blocks that came back", rows.toString(), "isConsistent() = true");
     }
 
     private void payBailWrongly() {
@@ -205,6 +220,10 @@ public final class MarbleEdgesTest {
         runs.changesNothing(title + ", 99 blocks", Starts.FULL, way + "(60) = 20");
         runs.changesNothing(title + ", fewer without the heaviest", "addBlocks(20, 1)\naddBlocks(1, 9)\n"
                 + "addBlocks(13, 2)\n", way + "(26) = 2");
+        runs.changesNothing(title + ", one fewer without the heaviest", "addBlocks(20, 1)\naddBlocks(9, 1)\n"
+                + "addBlocks(1, 1)\naddBlocks(15, 2)\n", way + "(30) = 2");
+        runs.changesNothing(title + ", one more with less of the heaviest", "addBlocks(20, 2)\naddBlocks(10, 2)\n",
+                way + "(40) = 2");
         runs.changesNothing(title + ", what the heaviest leaves cannot be had", "addBlocks(20, 3)\naddBlocks(7, 3)\n",
                 way + "(21) = 3");
         runs.changesNothing(title + ", fewer with less of the heaviest", "addBlocks(20, 3)\naddBlocks(16, 2)\n"

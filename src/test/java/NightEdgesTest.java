@@ -238,6 +238,7 @@ public final class NightEdgesTest {
         runs.changesNothing("P45: behind three scripts of 250 nights each", "run \"night 50;night 50;night 50;night 50;"
                 + "night 50\"\n" + "run \"night 50;night 50;night 50;night 50;night 50\"\n"
                 + "run \"night 50;night 50;night 50;night 50;night 50\"\n", "night() = 750");
+        runs.run("P45: behind as many nights as 511 calls pass", "passNights(50) = 0\n".repeat(511), "night() = 25550");
         runs.changesNothing("P45: a script without a number passes one", "run \"night;night\" = 2\n", "night() = 2");
     }
 

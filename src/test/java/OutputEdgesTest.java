@@ -23,8 +23,8 @@ public final class OutputEdgesTest {
         runs.changesNothing("P52: the same text again", Starts.RICH, "renderStatue(1) = 11");
         runs.run("P52: it is no change", "addPedestal()", "addStatue(0, 5)", "renderStatue(0)", "undo() = 1",
                 "statueCount() = 0");
-        runs.run("P52: no such statue leaves the text", Starts.RICH, "renderStatue(3) = throws.IndexOutOfBoundsException",
-                "text = \"1@1>1 30kg!\"");
+        runs.run("P52: no such statue leaves the text", Starts.RICH,
+                "renderStatue(3) = throws.IndexOutOfBoundsException", "text = \"1@1>1 30kg!\"");
     }
 
     private void renderWrit() {

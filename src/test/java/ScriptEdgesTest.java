@@ -14,6 +14,7 @@ public final class ScriptEdgesTest {
         test.bufferIsEmptied();
         test.numbersOfCommands();
         test.numbers();
+        test.eachCommand();
         test.commandsInOrder();
         test.withoutForm();
         test.failed();
@@ -101,9 +102,28 @@ public final class ScriptEdgesTest {
         runs.run("P56: nor of the next script", "run \"night 5\" = 1", "run \"night\" = 1", "night() = 6");
     }
 
+    private void eachCommand() {
+        String[] pairs = {
+            "pedestal", "addPedestal() = 4",
+            "arrow 03", "setArrow(0, 3)", "arrow 30", "setArrow(3, 0)",
+            "statue 2 99", "addStatue(2, 99) = 3", "statue 2 001", "addStatue(2, 1) = 3",
+            "home 03", "setHome(0, 3) = 0", "home 20", "setHome(2, 0)",
+            "writ 2 0 60", "issueWrit(2, 0, 60) = 4", "writ 0 20 1", "issueWrit(0, 20, 1) = 4",
+            "writ 1 3 5<2", "issueFollower(1, 3, 5, 2) = 4", "writ 1 5 3<000", "issueFollower(1, 5, 3, 0) = 4",
+            "block 7 9", "addBlocks(7, 9) = 9", "block 020 1", "addBlocks(20, 1) = 3",
+            "pay 1", "payBail(1) = 2",
+            "hear 1", "hear(1) = 'd'", "hear 2", "hear(2) = 'u'",
+            "night", "passNights(1)", "night 1", "passNights(1)", "night 50", "passNights(50)"};
+        String start = Starts.RICH_BUT_BUFFER + "passNights(1)\n";
+        for (int i = 0; i < pairs.length; i += 2) {
+            runs.same("P56: " + pairs[i] + " stands for " + pairs[i + 1], start + "run \"" + pairs[i] + "\" = 1",
+                    start + pairs[i + 1]);
+        }
+    }
+
     private void commandsInOrder() {
-        runs.run("P56: a command finds what the one before has done", "run \"pedestal;statue 0 5;writ 0 1 5;hear 0\" = 4",
-                "dismissedTotal() = 1");
+        runs.run("P56: a command finds what the one before has done",
+                "run \"pedestal;statue 0 5;writ 0 1 5;hear 0\" = 4", "dismissedTotal() = 1");
         runs.run("P56: not what the one behind does", "run \"statue 0 5;pedestal\"" + FAILS, "failedCommand() = 0",
                 "pedestalCount() = 0");
         runs.run("P56: a hearing in each of two nights", Starts.STATUE, "issueWrit(0, 9, 5)", "issueWrit(0, 9, 5)",
@@ -111,7 +131,8 @@ public final class ScriptEdgesTest {
         runs.run("P56: two hearings in a night", Starts.STATUE, "issueWrit(0, 9, 5)", "issueWrit(0, 9, 5)",
                 "run \"hear 0;hear 1\"" + FAILS, "dismissedTotal() = 0", "writCount() = 2");
         runs.sameNow("P56: all commands take effect", Starts.RICH_BUT_BUFFER
-                + "run \"pedestal;arrow 40;statue 4 99;home 34;block 7 9;night 2\" = 6\nrun \"pay 1;hear 1;writ 3 4 5<0\" = 3\n",
+                + "run \"pedestal;arrow 40;statue 4 99;home 34;block 7 9;night 2\" = 6\n"
+                + "run \"pay 1;hear 1;writ 3 4 5<0\" = 3\n",
                 Starts.RICH_BUT_BUFFER + """
                 addPedestal() = 4
                 setArrow(4, 0) = 4

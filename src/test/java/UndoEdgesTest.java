@@ -63,6 +63,8 @@ public final class UndoEdgesTest {
                 "undo() = throws.NoSuchElementException");
         runs.run("P60: of a hundred changes ninety-two stay", NIGHT.repeat(100), "undo() = 7", undone(6),
                 "night() = 92", "undo() = throws.NoSuchElementException");
+        runs.run("P60: of five hundred changes 492 stay", NIGHT.repeat(500), "undo() = 7", undone(6), "night() = 492",
+                "undo() = throws.NoSuchElementException");
         runs.run("P60: the latest one first", "addPedestal()", "addPedestal()", "addStatue(1, 5)", "undo() = 2",
                 "statueCount() = 0", "pedestalCount() = 2", "undo() = 1", "pedestalCount() = 1");
     }

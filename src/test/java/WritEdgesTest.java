@@ -52,8 +52,8 @@ public final class WritEdgesTest {
         runs.run("P6: the last statue", Starts.RICH, "issueWrit(2, 5, 5) = 4", "statueOf(4) = 2");
         runs.run("P6: the eighth writ is issued", Starts.FULL, "undo()", "issueWrit(5, 20, 60) = 7",
                 "writCount() = 8");
-        runs.run("P6: it has no cause", Starts.RICH, "issueWrit(0, 5, 5) = 4", "causeOf(4) = throws.NoSuchElementException",
-                "causeDepth(4) = 0");
+        runs.run("P6: it has no cause", Starts.RICH, "issueWrit(0, 5, 5) = 4",
+                "causeOf(4) = throws.NoSuchElementException", "causeDepth(4) = 0");
         runs.run("P6: its bail is not paid initially", Starts.RICH, "issueWrit(0, 5, 5) = 4", "isPaid(4) = false");
         runs.run("P6: nor is it where a paid writ was closed", Starts.STATUE, "addBlocks(5, 2)",
                 "issueWrit(0, 5, 5) = 0", "payBail(0) = 1", "hear(0) = 'd'", "issueWrit(0, 5, 5) = 1",
@@ -71,7 +71,8 @@ public final class WritEdgesTest {
                 "issueWrit(0, 5, 5) = 1");
         runs.run("P6: nor that of one that has lapsed", Starts.STATUE, "issueWrit(0, 0, 5) = 0", "passNights(1)",
                 "issueWrit(0, 5, 5) = 1");
-        runs.run("P6: a refused writ takes no id", Starts.STATUE, "issueWrit(0, 21, 5) = throws.IllegalArgumentException",
+        runs.run("P6: a refused writ takes no id", Starts.STATUE,
+                "issueWrit(0, 21, 5) = throws.IllegalArgumentException",
                 "issueWrit(1, 5, 5) = throws.IndexOutOfBoundsException", "issueWrit(0, 5, 5) = 0");
         runs.run("P7: a refused follower takes no id", Starts.STATUE,
                 "issueFollower(0, 5, 5, 0) = throws.NoSuchElementException", "issueWrit(0, 5, 5) = 0");
@@ -79,6 +80,9 @@ public final class WritEdgesTest {
                 "issueWrit(0, 5, 5) = 0");
         runs.run("P6: ids of two digits", Starts.FULL, "passNights(11)", "issueWrit(0, 5, 5)\n".repeat(3),
                 "writAt(2) = 10", "statueOf(10) = 0");
+        runs.run("P6: ids of three digits", Starts.STATUE, "issueWrit(0, 0, 5)\npassNights(1)\n".repeat(250),
+                "issueWrit(0, 9, 5) = 250", "issueFollower(0, 9, 5, 250) = 251", "causeOf(251) = 250",
+                "lapsedTotal() = 250");
     }
 
     private void issueWritWrongly() {
